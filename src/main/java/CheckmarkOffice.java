@@ -977,7 +977,8 @@ public final class CheckmarkOffice {
         }
 
         private boolean hasPower(int power) {
-            return (((power < 64 ? low >>> power : high >>> (power - 64))) & 1) != 0;
+            long fromThere = power < 64 ? low >>> power : high >>> (power - 64);
+            return (fromThere & 1) != 0;
         }
 
         /** Bits that would move above bit 63 of one half are those that come into the other one. */
@@ -1000,12 +1001,16 @@ public final class CheckmarkOffice {
             for (int tried = 2; left > 1 && tried <= number; tried++) {
                 // With no factor up to half its degree, what is left is one itself.
                 int factor = 2 * smallDegree(tried) > smallDegree(left) ? left : tried;
-                for (int times = 0; times < SMALL_TOP && left > 1 && smallRest(left, factor) == 0; times++) {
+                for (int times = 0; times < SMALL_TOP && left > 1; times++) {
+                    int division = smallDivision(left, factor);
+                    if ((division & 0xFFFF) != 0) {
+                        break;
+                    }
                     if (found == index) {
                         return factor;
                     }
                     found++;
-                    left = smallQuotient(left, factor);
+                    left = division >>> 16;
                 }
             }
             return 0;
@@ -1037,18 +1042,8 @@ public final class CheckmarkOffice {
             return degree;
         }
 
-        private static int smallRest(int number, int divisor) {
-            int degree = smallDegree(divisor);
-            int rest = number;
-            for (int power = SMALL_TOP; degree >= 0 && power >= degree; power--) {
-                if (((rest >>> power) & 1) != 0) {
-                    rest ^= divisor << (power - degree);
-                }
-            }
-            return rest;
-        }
-
-        private static int smallQuotient(int number, int divisor) {
+        /** The quotient, times 2 to the 16th, and the rest, so that one pass tells both. */
+        private static int smallDivision(int number, int divisor) {
             int degree = smallDegree(divisor);
             int rest = number;
             int quotient = 0;
@@ -1058,7 +1053,7 @@ public final class CheckmarkOffice {
                     quotient |= 1 << (power - degree);
                 }
             }
-            return quotient;
+            return (quotient << 16) | rest;
         }
     }
 

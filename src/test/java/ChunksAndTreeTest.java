@@ -157,6 +157,9 @@ public final class ChunksAndTreeTest {
         due.is(64, () -> same(0, 64).stays(1, 2, 64, 1));
         due.is(63, () -> same(0, 64).stays(1, 2, 63, 1));
         due.is(0, () -> same(1, 64).stays(1, 2, 64, 1));
+        CheckmarkOffice y = same(0, 64);
+        y.put(63, 2);
+        due.is(64, () -> y.stays(1, 2, 0, 4));
         CheckmarkOffice x = same(0, 64);
         x.stays(1, 2, 3, 9);
         due.is(0, () -> x.byteAt(3));
