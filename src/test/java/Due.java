@@ -66,7 +66,7 @@ final class Due {
 
     private static String place() {
         return StackWalker.getInstance().walk(frames -> frames
-                .filter(frame -> !frame.getClassName().equals("Due"))
+                .filter(frame -> !frame.getClassName().equals("Due") && !frame.getClassName().equals("Tried"))
                 .findFirst()
                 .map(frame -> frame.getFileName() + ":" + frame.getLineNumber())
                 .orElse("?"));
