@@ -26,8 +26,8 @@ public final class CheckmarkOffice {
     private final Schemes schemes = new Schemes();
     private final Wares wares = new Wares();
     private final Row longerRow = new Row(MOST_BYTES + 1);
-    private final Chunks chunksNow = new Chunks(bytes);
-    private final Chunks chunksThen = new Chunks(longerRow);
+    private final Chunks chunksNow = new Chunks();
+    private final Chunks chunksThen = new Chunks();
     private final Tree tree = new Tree();
 
     public CheckmarkOffice() {
@@ -395,7 +395,7 @@ public final class CheckmarkOffice {
     public int chunks(int window, int step) throws IllegalArgumentException {
         requireWindow(window);
         requireStep(step);
-        chunksNow.cut(window, step);
+        chunksNow.cut(bytes, window, step);
         return chunksNow.count();
     }
 
@@ -403,7 +403,7 @@ public final class CheckmarkOffice {
             throws IllegalArgumentException, IndexOutOfBoundsException {
         requireWindow(window);
         requireStep(step);
-        chunksNow.cut(window, step);
+        chunksNow.cut(bytes, window, step);
         if (index < 0 || index >= chunksNow.count()) {
             throw new IndexOutOfBoundsException("there is no such chunk");
         }
@@ -418,8 +418,8 @@ public final class CheckmarkOffice {
         requirePlaceOrEnd(place);
         longerRow.copy(bytes);
         longerRow.openAt(place, value);
-        chunksNow.cut(window, step);
-        chunksThen.cut(window, step);
+        chunksNow.cut(bytes, window, step);
+        chunksThen.cut(longerRow, window, step);
         return chunksNow.countIn(chunksThen);
     }
 
@@ -1309,16 +1309,12 @@ public final class CheckmarkOffice {
         }
     }
 
-    /** The chunks of a row, as it was cut last. */
+    /** The chunks of a row, as one was cut last. */
     private static final class Chunks {
-        private final Row row;
+        private final Row row = new Row(MOST_BYTES + 1);
         private final int[] ends = new int[MOST_BYTES + 1];
         private final boolean[] taken = new boolean[MOST_BYTES + 1];
         private int count;
-
-        Chunks(Row row) {
-            this.row = row;
-        }
 
         static int rollingSum(Row row, int place, int window) {
             int total = 0;
@@ -1328,7 +1324,8 @@ public final class CheckmarkOffice {
             return total;
         }
 
-        void cut(int window, int step) {
+        void cut(Row model, int window, int step) {
+            row.copy(model);
             count = 0;
             for (int place = 0; place < row.size(); place++) {
                 if ((isCut(place, window, step) || place == row.size() - 1) && count < ends.length) {

@@ -118,6 +118,20 @@ public final class FaceTest {
                 due.compare("import java.util.NoSuchElementException;", line);
             }
         }
+        handsOutNothingBeingMade(text);
+    }
+
+    /** A field begins with an object that is made from constants alone, and so from no part of what is being made. */
+    private void handsOutNothingBeingMade(String text) {
+        int found = 0;
+        for (String line : text.split("\n")) {
+            if (line.matches(" +private .* = new [A-Z]\\w*\\(.*\\);")) {
+                String arguments = line.substring(line.lastIndexOf('(') + 1, line.lastIndexOf(')'));
+                due.compare("constants alone", arguments.matches("[A-Z0-9_ ,+*]*") ? "constants alone" : line);
+                found++;
+            }
+        }
+        due.compare("some fields", found > 0 ? "some fields" : "no fields");
     }
 
     private static String told(Method method) {
